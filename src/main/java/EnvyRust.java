@@ -51,6 +51,8 @@ public final class EnvyRust {
     private static final int THIEF = 4;
     private static final int CHILD = 5;
     private static final int BEGGAR = 6;
+    /** Of each kind the one that it is under. */
+    private static final int[] KIND_ABOVE = {NOTHING, LOOKER, LOOKER, RIVAL, PRAISER, LOOKER, MODEST};
 
     private final Town town = new Town();
     private final Town kept = new Town();
@@ -230,7 +232,8 @@ public final class EnvyRust {
             return told(BEYOND);
         }
         startTrial();
-        return town.allThick() - leftBehind(n);
+        trial.passDays(n);
+        return town.allThick() - trial.allThick();
     }
 
     public int sees(int person, int thing) {
@@ -263,14 +266,15 @@ public final class EnvyRust {
         return sparingFor(person, WALK, PLACES, n);
     }
 
-    /** Which of 0 to choices - 1 lets all lose least, if that is what one has. */
+    /** Which of 0 to choices - 1 lets all lose least: that which leaves most of all. */
     private int sparingFor(int person, int what, int choices, int n) {
         int best = 0;
         int most = -1;
         for (int v = 0; v < choices; v++) {
             startTrial();
             trial.setFolk(person, what, v);
-            int left = leftBehind(n);
+            trial.passDays(n);
+            int left = trial.allThick();
             if (left > most) {
                 most = left;
                 best = v;
@@ -325,7 +329,8 @@ public final class EnvyRust {
         for (int person = 0; person < town.people; person++) {
             startTrial();
             trial.calm = person;
-            int left = leftBehind(n);
+            trial.passDays(n);
+            int left = trial.allThick();
             if (left > most) {
                 most = left;
                 best = person;
@@ -343,7 +348,10 @@ public final class EnvyRust {
         int most = -1;
         for (int set = 0; set <= town.allThings(); set++) {
             if (Integer.bitCount(set) == size) {
-                int left = leftPainted(set, n);
+                startTrial();
+                trial.paintDull(set);
+                trial.passDays(n);
+                int left = trial.allThick();
                 if (left > most) {
                     most = left;
                     best = set;
@@ -351,16 +359,6 @@ public final class EnvyRust {
             }
         }
         return best;
-    }
-
-    private int leftPainted(int set, int n) {
-        startTrial();
-        for (int thing = 0; thing < trial.things; thing++) {
-            if (contains(set, thing)) {
-                trial.setIron(thing, PAINT, MOST_PAINT);
-            }
-        }
-        return leftBehind(n);
     }
 
     public int needs(int thing, int n) {
@@ -380,12 +378,6 @@ public final class EnvyRust {
 
     private void startTrial() {
         trial.become(town);
-    }
-
-    /** What all THICK of the trial is behind n days: where most is left, least is lost. */
-    private int leftBehind(int n) {
-        trial.passDays(n);
-        return trial.allThick();
     }
 
     // ---- what hangs
@@ -536,11 +528,11 @@ public final class EnvyRust {
         return town.isPerson(person) && town.isThing(thing) ? 0 : BEYOND;
     }
 
-    private boolean fitsWith(Sheet told, int person, int thing, int liked) {
+    private boolean fitsWith(Sheet tale, int person, int thing, int liked) {
         startTrial();
         trial.setFolk(person, LIKES + trial.iron(thing, SORT), liked);
-        for (int i = 0; i < told.length; i++) {
-            if (told.row[i] != -1 && told.row[i] != trial.iron(thing, THICK)) {
+        for (int i = 0; i < tale.length; i++) {
+            if (tale.row[i] != -1 && tale.row[i] != trial.iron(thing, THICK)) {
                 return false;
             }
             trial.passDays(1);
@@ -826,30 +818,13 @@ public final class EnvyRust {
         return (place + walk) % PLACES;
     }
 
-    private static int kindAbove(int kind) {
-        switch (kind) {
-            case MODEST:
-            case RIVAL:
-            case CHILD:
-                return LOOKER;
-            case PRAISER:
-                return RIVAL;
-            case THIEF:
-                return PRAISER;
-            case BEGGAR:
-                return MODEST;
-            default:
-                return NOTHING;
-        }
-    }
-
     private static boolean isOrUnder(int kind, int above) {
         int k = kind;
-        for (int steps = 0; steps < KINDS && k != NOTHING; steps++) {
+        for (int steps = 0; steps < KINDS && k >= 0 && k < KINDS; steps++) {
             if (k == above) {
                 return true;
             }
-            k = kindAbove(k);
+            k = KIND_ABOVE[k];
         }
         return false;
     }
@@ -946,6 +921,14 @@ public final class EnvyRust {
             return person;
         }
 
+        private void paintDull(int set) {
+            for (int thing = 0; thing < things; thing++) {
+                if (contains(set, thing)) {
+                    setIron(thing, PAINT, MOST_PAINT);
+                }
+            }
+        }
+
         private boolean isGone(int thing) {
             return iron(thing, THICK) == 0;
         }
@@ -955,38 +938,31 @@ public final class EnvyRust {
             return owner == person || person == calm ? 0 : envyIfOwnedBy(owner, person, thing);
         }
 
-        /** Envy of one who isn't the owner, or who is nobody's rival if the owner is nobody. */
+        /** Envy for a thing as if it were somebody else's, or nobody's. */
         private int envyIfOwnedBy(int owner, int person, int thing) {
-            if (isGone(thing)) {
+            int thick = iron(thing, THICK);
+            if (thick == 0) {
                 return 0;
             }
             int plain = folk(person, LIKES + iron(thing, SORT)) - iron(thing, PAINT);
-            int rival = plain + (isRival(owner) ? 2 : 0);
-            int thick = iron(thing, THICK);
-            return Math.max(0, ofKind(folk(person, KIND), plain, rival, owner, thick));
-        }
-
-        private static int ofKind(int kind, int plain, int rival, int owner, int thick) {
-            switch (kind) {
+            boolean ofRival = owner != NOTHING && isOrUnder(folk(owner, KIND), RIVAL);
+            int rival = plain + (ofRival ? 2 : 0);
+            switch (folk(person, KIND)) {
                 case MODEST:
-                    return plain / 2;
+                    return Math.max(0, plain / 2);
                 case RIVAL:
-                    return rival;
+                    return Math.max(0, rival);
                 case PRAISER:
-                    return rival - 3;
+                    return Math.max(0, rival - 3);
                 case THIEF:
-                    return rival - 3 + thick / 100;
+                    return Math.max(0, rival - 3 + thick / 100);
                 case CHILD:
-                    return plain * 2;
+                    return Math.max(0, plain * 2);
                 case BEGGAR:
-                    return owner == NOTHING ? 0 : plain / 2;
+                    return owner == NOTHING ? 0 : Math.max(0, plain / 2);
                 default:
-                    return plain;
+                    return Math.max(0, plain);
             }
-        }
-
-        private boolean isRival(int person) {
-            return person != NOTHING && isOrUnder(folk(person, KIND), RIVAL);
         }
 
         private int worthOf(int person, int set) {
@@ -1022,17 +998,13 @@ public final class EnvyRust {
 
         private void passDays(int n) {
             for (int i = 0; i < n; i++) {
-                wearAll();
+                // No thing's wear asks how thick another one is, so that each is worn at once.
+                for (int thing = 0; thing < things; thing++) {
+                    setIron(thing, THICK, Math.max(0, iron(thing, THICK) - wearOf(thing)));
+                }
                 fallAll();
                 walkAll();
                 day++;
-            }
-        }
-
-        /** No thing's wear asks how thick another one is, so that each can be worn at once. */
-        private void wearAll() {
-            for (int thing = 0; thing < things; thing++) {
-                setIron(thing, THICK, Math.max(0, iron(thing, THICK) - wearOf(thing)));
             }
         }
 
@@ -1217,7 +1189,14 @@ public final class EnvyRust {
             int items = 0;
             boolean more = true;
             while (more && items <= TAPE_LENGTH) {
-                readItem(town);
+                int kind = kindTold();
+                if (kind != NOTHING && town.people < MOST) {
+                    readPerson(town, kind);
+                } else if (isWord("thing") && town.things < MOST) {
+                    readThing(town);
+                } else {
+                    fail();
+                }
                 items++;
                 more = fault == NOTHING && token == SIGN;
                 if (more) {
@@ -1228,17 +1207,6 @@ public final class EnvyRust {
                 fail();
             }
             return items;
-        }
-
-        private void readItem(Town town) {
-            int kind = kindTold();
-            if (kind != NOTHING && town.people < MOST) {
-                readPerson(town, kind);
-            } else if (isWord("thing") && town.things < MOST) {
-                readThing(town);
-            } else {
-                fail();
-            }
         }
 
         private void readPerson(Town town, int kind) {
@@ -1353,18 +1321,14 @@ public final class EnvyRust {
                 }
             } else if (isDigit(end)) {
                 token = NUMBER;
-                takeNumber();
+                value = 0;
+                while (isDigit(end)) {
+                    // Above all that a number may be it grows no more, however many digits follow.
+                    value = Math.min(MOST_THICK + 1, value * 10 + tape[end] - '0');
+                    end++;
+                }
             } else {
                 token = tape[start] == ';' ? SIGN : STRANGE;
-                end++;
-            }
-        }
-
-        private void takeNumber() {
-            value = 0;
-            while (isDigit(end)) {
-                // Above all that any number may be it grows no more, however many digits follow.
-                value = Math.min(MOST_THICK + 1, value * 10 + tape[end] - '0');
                 end++;
             }
         }
