@@ -61,6 +61,9 @@ public final class EnvyRust {
     private final Sheet[] sheets = new Sheet[SHEETS];
     private final int[] findings = new int[FINDINGS];
     private boolean imaged = false;
+    /** Of each thing how much of it is left, as it is painted and painted 9: for paint() alone. */
+    private final int[] bare = new int[MOST];
+    private final int[] dull = new int[MOST];
 
     public EnvyRust() {
         for (int s = 0; s < SHEETS; s++) {
@@ -84,7 +87,7 @@ public final class EnvyRust {
         if (!town.isThing(thing) || !between(what, SORT, WEAR)) {
             return told(BEYOND);
         }
-        return what == WEAR ? town.wearOf(thing) : town.iron(thing, what);
+        return what == WEAR ? town.wearOf(thing) : town.iron[what][thing];
     }
 
     public int forge(int thing, int what, int v) {
@@ -94,8 +97,8 @@ public final class EnvyRust {
         if (what == HANGS && v != NOTHING && contains(town.falling(thing), v)) {
             return told(STATE);
         }
-        int before = town.iron(thing, what);
-        town.setIron(thing, what, v);
+        int before = town.iron[what][thing];
+        town.iron[what][thing] = v;
         return before;
     }
 
@@ -132,15 +135,15 @@ public final class EnvyRust {
         if (!town.isPerson(person) || !between(what, KIND, OWNS)) {
             return told(BEYOND);
         }
-        return what == OWNS ? town.ownedBy(person) : town.folk(person, what);
+        return what == OWNS ? town.ownedBy(person) : town.folk[what][person];
     }
 
     public int change(int person, int what, int v) {
         if (!town.isPerson(person) || !changeable(what, v)) {
             return told(BEYOND);
         }
-        int before = town.folk(person, what);
-        town.setFolk(person, what, v);
+        int before = town.folk[what][person];
+        town.folk[what][person] = v;
         return before;
     }
 
@@ -201,7 +204,7 @@ public final class EnvyRust {
         }
         startTrial();
         trial.passDays(n);
-        return trial.iron(thing, THICK);
+        return trial.iron[THICK][thing];
     }
 
     public int lasts(int thing) {
@@ -240,9 +243,9 @@ public final class EnvyRust {
         if (!town.isPerson(person) || !town.isThing(thing)) {
             return told(BEYOND);
         }
-        int goal = town.iron(thing, AT);
-        int walk = town.folk(person, WALK);
-        int at = town.folk(person, AT);
+        int goal = town.iron[AT][thing];
+        int walk = town.folk[WALK][person];
+        int at = town.folk[AT][person];
         for (int days = 0; days <= MOST_AHEAD; days++) {
             if (at == goal) {
                 return days;
@@ -272,7 +275,7 @@ public final class EnvyRust {
         int most = -1;
         for (int v = 0; v < choices; v++) {
             startTrial();
-            trial.setFolk(person, what, v);
+            trial.folk[what][person] = v;
             trial.passDays(n);
             int left = trial.allThick();
             if (left > most) {
@@ -306,9 +309,9 @@ public final class EnvyRust {
         int most = -1;
         for (int v = 0; v < choices; v++) {
             startTrial();
-            trial.setIron(thing, what, v);
+            trial.iron[what][thing] = v;
             trial.passDays(n);
-            int left = trial.iron(thing, THICK);
+            int left = trial.iron[THICK][thing];
             if (left > most) {
                 most = left;
                 best = v;
@@ -344,14 +347,14 @@ public final class EnvyRust {
             return told(BEYOND);
         }
         int size = Math.min(k, town.things);
+        wearAlone(0, n, bare);
+        wearAlone(town.allThings(), n, dull);
+        startTrial();
         int best = 0;
         int most = -1;
         for (int set = 0; set <= town.allThings(); set++) {
             if (Integer.bitCount(set) == size) {
-                startTrial();
-                trial.paintDull(set);
-                trial.passDays(n);
-                int left = trial.allThick();
+                int left = leftPainted(set, n);
                 if (left > most) {
                     most = left;
                     best = set;
@@ -361,13 +364,41 @@ public final class EnvyRust {
         return best;
     }
 
+    /** Tells how thick each thing is behind n days with a set painted 9, if none falls with another. */
+    private void wearAlone(int set, int n, int[] left) {
+        startTrial();
+        for (int thing = 0; thing < trial.things; thing++) {
+            trial.iron[HANGS][thing] = NOTHING;
+            if (contains(set, thing)) {
+                trial.iron[PAINT][thing] = MOST_PAINT;
+            }
+        }
+        trial.passDays(n);
+        System.arraycopy(trial.iron[THICK], 0, left, 0, MOST);
+    }
+
+    /**
+     * How thick all together are behind n days with a set painted 9. How a thing wears has nothing
+     * to do with how others are painted, and what falls may as well fall on the last day: so the
+     * days need not go by for each set.
+     */
+    private int leftPainted(int set, int n) {
+        for (int thing = 0; thing < trial.things; thing++) {
+            trial.iron[THICK][thing] = contains(set, thing) ? dull[thing] : bare[thing];
+        }
+        if (n > 0) {
+            trial.fallAll();
+        }
+        return trial.allThick();
+    }
+
     public int needs(int thing, int n) {
         if (!town.isThing(thing) || !between(n, 0, MOST_TRIED)) {
             return told(BEYOND);
         }
         for (int coat = 0; coat <= MOST_PAINT; coat++) {
             startTrial();
-            trial.setIron(thing, PAINT, coat);
+            trial.iron[PAINT][thing] = coat;
             trial.passDays(n);
             if (!trial.isGone(thing)) {
                 return coat;
@@ -410,7 +441,7 @@ public final class EnvyRust {
     public int fells() {
         int set = 0;
         for (int thing = 0; thing < town.things; thing++) {
-            if (town.iron(thing, HANGS) == NOTHING) {
+            if (town.iron[HANGS][thing] == NOTHING) {
                 set |= 1 << thing;
             }
         }
@@ -530,9 +561,9 @@ public final class EnvyRust {
 
     private boolean fitsWith(Sheet tale, int person, int thing, int liked) {
         startTrial();
-        trial.setFolk(person, LIKES + trial.iron(thing, SORT), liked);
+        trial.folk[LIKES + trial.iron[SORT][thing]][person] = liked;
         for (int i = 0; i < tale.length; i++) {
-            if (tale.row[i] != -1 && tale.row[i] != trial.iron(thing, THICK)) {
+            if (tale.row[i] != -1 && tale.row[i] != trial.iron[THICK][thing]) {
                 return false;
             }
             trial.passDays(1);
@@ -633,7 +664,7 @@ public final class EnvyRust {
         if (person == NOTHING) {
             return told(MISSING);
         }
-        return isOrUnder(town.folk(person, KIND), kind) ? person : told(WRONG_KIND);
+        return isOrUnder(town.folk[KIND][person], kind) ? person : told(WRONG_KIND);
     }
 
     public int sheet(int s, int bits, int n) {
@@ -690,7 +721,7 @@ public final class EnvyRust {
             if (!between(thick, 0, MOST_THICK)) {
                 return i;
             }
-            town.setIron(i, THICK, thick);
+            town.iron[THICK][i] = thick;
         }
         return most;
     }
@@ -717,7 +748,7 @@ public final class EnvyRust {
         if (i + 1 >= chain.length) {
             return true;
         }
-        int hanger = town.iron(thing, HANGS);
+        int hanger = town.iron[HANGS][thing];
         return hanger != NOTHING && hanger == chain.row[i + 1];
     }
 
@@ -834,10 +865,10 @@ public final class EnvyRust {
         private static final int TOLD_OF_THING = 6;
         private static final int TOLD_OF_PERSON = 7;
 
-        /** Of each thing what thingOf() tells by 0 to 5, thing behind thing. */
-        private final int[] iron = new int[MOST * TOLD_OF_THING];
-        /** Of each one what of() tells by 0 to 6, one behind the other. */
-        private final int[] folk = new int[MOST * TOLD_OF_PERSON];
+        /** By what thingOf() tells by 0 to 5 a row, with a number for each thing. */
+        private final int[][] iron = new int[TOLD_OF_THING][MOST];
+        /** By what of() tells by 0 to 6 a row, with a number for each one. */
+        private final int[][] folk = new int[TOLD_OF_PERSON][MOST];
         private final int[] spots = new int[SPOTS];
         private int things = 0;
         private int people = 0;
@@ -853,8 +884,12 @@ public final class EnvyRust {
         }
 
         private void become(Town other) {
-            System.arraycopy(other.iron, 0, iron, 0, MOST * TOLD_OF_THING);
-            System.arraycopy(other.folk, 0, folk, 0, MOST * TOLD_OF_PERSON);
+            for (int what = 0; what < TOLD_OF_THING; what++) {
+                System.arraycopy(other.iron[what], 0, iron[what], 0, MOST);
+            }
+            for (int what = 0; what < TOLD_OF_PERSON; what++) {
+                System.arraycopy(other.folk[what], 0, folk[what], 0, MOST);
+            }
             System.arraycopy(other.spots, 0, spots, 0, SPOTS);
             things = other.things;
             people = other.people;
@@ -879,32 +914,16 @@ public final class EnvyRust {
             return between(set, 0, allThings());
         }
 
-        private int iron(int thing, int what) {
-            return iron[thing * TOLD_OF_THING + what];
-        }
-
-        private void setIron(int thing, int what, int v) {
-            iron[thing * TOLD_OF_THING + what] = v;
-        }
-
-        private int folk(int person, int what) {
-            return folk[person * TOLD_OF_PERSON + what];
-        }
-
-        private void setFolk(int person, int what, int v) {
-            folk[person * TOLD_OF_PERSON + what] = v;
-        }
-
         /** There must be room for one more. */
         private int addThing(int sort, int place) {
             int thing = things;
             things++;
-            setIron(thing, SORT, sort);
-            setIron(thing, AT, place);
-            setIron(thing, THICK, 100);
-            setIron(thing, PAINT, 0);
-            setIron(thing, OWNER, NOTHING);
-            setIron(thing, HANGS, NOTHING);
+            iron[SORT][thing] = sort;
+            iron[AT][thing] = place;
+            iron[THICK][thing] = 100;
+            iron[PAINT][thing] = 0;
+            iron[OWNER][thing] = NOTHING;
+            iron[HANGS][thing] = NOTHING;
             return thing;
         }
 
@@ -912,42 +931,34 @@ public final class EnvyRust {
         private int addPerson(int kind, int place) {
             int person = people;
             people++;
-            setFolk(person, KIND, kind);
-            setFolk(person, AT, place);
-            setFolk(person, WALK, 1);
+            folk[KIND][person] = kind;
+            folk[AT][person] = place;
+            folk[WALK][person] = 1;
             for (int sort = 0; sort < SORTS; sort++) {
-                setFolk(person, LIKES + sort, 1);
+                folk[LIKES + sort][person] = 1;
             }
             return person;
         }
 
-        private void paintDull(int set) {
-            for (int thing = 0; thing < things; thing++) {
-                if (contains(set, thing)) {
-                    setIron(thing, PAINT, MOST_PAINT);
-                }
-            }
-        }
-
         private boolean isGone(int thing) {
-            return iron(thing, THICK) == 0;
+            return iron[THICK][thing] == 0;
         }
 
         private int envyOf(int person, int thing) {
-            int owner = iron(thing, OWNER);
+            int owner = iron[OWNER][thing];
             return owner == person || person == calm ? 0 : envyIfOwnedBy(owner, person, thing);
         }
 
         /** Envy for a thing as if it were somebody else's, or nobody's. */
         private int envyIfOwnedBy(int owner, int person, int thing) {
-            int thick = iron(thing, THICK);
+            int thick = iron[THICK][thing];
             if (thick == 0) {
                 return 0;
             }
-            int plain = folk(person, LIKES + iron(thing, SORT)) - iron(thing, PAINT);
-            boolean ofRival = owner != NOTHING && isOrUnder(folk(owner, KIND), RIVAL);
+            int plain = folk[LIKES + iron[SORT][thing]][person] - iron[PAINT][thing];
+            boolean ofRival = owner != NOTHING && isOrUnder(folk[KIND][owner], RIVAL);
             int rival = plain + (ofRival ? 2 : 0);
-            switch (folk(person, KIND)) {
+            switch (folk[KIND][person]) {
                 case MODEST:
                     return Math.max(0, plain / 2);
                 case RIVAL:
@@ -978,7 +989,7 @@ public final class EnvyRust {
         private int ownedBy(int person) {
             int set = 0;
             for (int thing = 0; thing < things; thing++) {
-                if (iron(thing, OWNER) == person) {
+                if (iron[OWNER][thing] == person) {
                     set |= 1 << thing;
                 }
             }
@@ -987,9 +998,9 @@ public final class EnvyRust {
 
         private int wearOf(int thing) {
             int sum = 0;
-            int place = iron(thing, AT);
+            int place = iron[AT][thing];
             for (int person = 0; person < people; person++) {
-                if (folk(person, AT) == place) {
+                if (folk[AT][person] == place) {
                     sum += envyOf(person, thing);
                 }
             }
@@ -1000,7 +1011,7 @@ public final class EnvyRust {
             for (int i = 0; i < n; i++) {
                 // No thing's wear asks how thick another one is, so that each is worn at once.
                 for (int thing = 0; thing < things; thing++) {
-                    setIron(thing, THICK, Math.max(0, iron(thing, THICK) - wearOf(thing)));
+                    iron[THICK][thing] = Math.max(0, iron[THICK][thing] - wearOf(thing));
                 }
                 fallAll();
                 walkAll();
@@ -1013,9 +1024,9 @@ public final class EnvyRust {
             for (int round = 0; round < MOST && falls; round++) {
                 falls = false;
                 for (int thing = 0; thing < things; thing++) {
-                    int hanger = iron(thing, HANGS);
+                    int hanger = iron[HANGS][thing];
                     if (hanger != NOTHING && isGone(hanger) && !isGone(thing)) {
-                        setIron(thing, THICK, 0);
+                        iron[THICK][thing] = 0;
                         falls = true;
                     }
                 }
@@ -1024,7 +1035,7 @@ public final class EnvyRust {
 
         private void walkAll() {
             for (int person = 0; person < people; person++) {
-                setFolk(person, AT, onward(folk(person, AT), folk(person, WALK)));
+                folk[AT][person] = onward(folk[AT][person], folk[WALK][person]);
             }
         }
 
@@ -1032,7 +1043,7 @@ public final class EnvyRust {
         private void scatter() {
             for (int person = 0; person < people; person++) {
                 z = z * 1103515245 + 12345;
-                setFolk(person, AT, (z >>> 8) % PLACES);
+                folk[AT][person] = (z >>> 8) % PLACES;
             }
         }
 
@@ -1049,7 +1060,7 @@ public final class EnvyRust {
         private int allThick() {
             int sum = 0;
             for (int thing = 0; thing < things; thing++) {
-                sum += iron(thing, THICK);
+                sum += iron[THICK][thing];
             }
             return sum;
         }
@@ -1066,11 +1077,11 @@ public final class EnvyRust {
         private int visited() {
             int places = 0;
             for (int person = 0; person < people; person++) {
-                places |= 1 << folk(person, AT);
+                places |= 1 << folk[AT][person];
             }
             int set = 0;
             for (int thing = 0; thing < things; thing++) {
-                if (contains(places, iron(thing, AT))) {
+                if (contains(places, iron[AT][thing])) {
                     set |= 1 << thing;
                 }
             }
@@ -1080,7 +1091,7 @@ public final class EnvyRust {
         private int placesOfThings() {
             int places = 0;
             for (int thing = 0; thing < things; thing++) {
-                places |= 1 << iron(thing, AT);
+                places |= 1 << iron[AT][thing];
             }
             return places;
         }
@@ -1092,7 +1103,7 @@ public final class EnvyRust {
             for (int round = 0; round < MOST && grows; round++) {
                 grows = false;
                 for (int other = 0; other < things; other++) {
-                    int hanger = iron(other, HANGS);
+                    int hanger = iron[HANGS][other];
                     if (hanger != NOTHING && contains(set, hanger) && !contains(set, other)) {
                         set |= 1 << other;
                         grows = true;
@@ -1104,10 +1115,10 @@ public final class EnvyRust {
 
         private int hangingDepth(int thing) {
             int steps = 0;
-            int hanger = iron(thing, HANGS);
+            int hanger = iron[HANGS][thing];
             while (steps < MOST && hanger != NOTHING) {
                 steps++;
-                hanger = iron(hanger, HANGS);
+                hanger = iron[HANGS][hanger];
             }
             return steps;
         }
@@ -1214,11 +1225,11 @@ public final class EnvyRust {
             int place = readPerhaps("at", PLACES - 1, 0);
             int walk = readPerhaps("walks", PLACES - 1, 1);
             int person = town.addPerson(kind, place);
-            town.setFolk(person, WALK, walk);
+            town.folk[WALK][person] = walk;
             if (fault == NOTHING && isWord("likes")) {
                 advance();
                 for (int sort = 0; sort < SORTS; sort++) {
-                    town.setFolk(person, LIKES + sort, readNumber(MOST_LIKED));
+                    town.folk[LIKES + sort][person] = readNumber(MOST_LIKED);
                 }
             }
         }
@@ -1232,10 +1243,10 @@ public final class EnvyRust {
             int owner = readPerhaps("of", town.people - 1, NOTHING);
             int hanger = readPerhaps("on", town.things - 1, NOTHING);
             int thing = town.addThing(sort, place);
-            town.setIron(thing, THICK, thick);
-            town.setIron(thing, PAINT, coat);
-            town.setIron(thing, OWNER, owner);
-            town.setIron(thing, HANGS, hanger);
+            town.iron[THICK][thing] = thick;
+            town.iron[PAINT][thing] = coat;
+            town.iron[OWNER][thing] = owner;
+            town.iron[HANGS][thing] = hanger;
         }
 
         private int readPerhaps(String word, int most, int without) {
