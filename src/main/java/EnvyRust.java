@@ -354,7 +354,7 @@ public final class EnvyRust {
         int most = -1;
         for (int set = 0; set <= town.allThings(); set++) {
             if (Integer.bitCount(set) == size) {
-                int left = leftPainted(set, n);
+                int left = leftPainted(set);
                 if (left > most) {
                     most = left;
                     best = set;
@@ -378,17 +378,15 @@ public final class EnvyRust {
     }
 
     /**
-     * How thick all together are behind n days with a set painted 9. How a thing wears has nothing
+     * How thick all together are behind the days with a set painted 9. How a thing wears has nothing
      * to do with how others are painted, and what falls may as well fall on the last day: so the
-     * days need not go by for each set.
+     * days need not go by for each set. (Without any day all sets are alike, whatever falls.)
      */
-    private int leftPainted(int set, int n) {
+    private int leftPainted(int set) {
         for (int thing = 0; thing < trial.things; thing++) {
             trial.iron[THICK][thing] = contains(set, thing) ? dull[thing] : bare[thing];
         }
-        if (n > 0) {
-            trial.fallAll();
-        }
+        trial.fallAll();
         return trial.allThick();
     }
 
@@ -838,7 +836,7 @@ public final class EnvyRust {
     }
 
     private static boolean contains(int set, int member) {
-        return (set >> member & 1) == 1;
+        return ((set >> member) & 1) == 1;
     }
 
     private static boolean isPart(int part, int set) {

@@ -86,6 +86,12 @@ public final class DaysTest {
         due.refuses(x, Due.STATE, "strolls(1)", () -> x.strolls(1));
         due.promise(9, "go");
         due.refuses(x, Due.STATE, "go(1)", () -> x.go(1));
+        EnvyRust y = new EnvyRust();
+        for (int i = 0; i < 1666; i++) {
+            y.go(60);
+        }
+        due.is("go(39)", y.go(39), 0);
+        due.is("now(0)", y.now(0), 99999);
     }
 
     private static void now(Due due) {
@@ -103,6 +109,10 @@ public final class DaysTest {
         due.is("now(2)", x.now(2), 96 + 96 + 95);
         due.is("now(3)", x.now(3), 0);
         due.is("now(4)", x.now(4), 0);
+        x.forge(0, 1, 0);
+        due.is("nobody is at 0", x.now(4), 0);
+        x.change(0, 1, 0);
+        due.is("somebody is at 0", x.now(4), 1);
         due.refuses(x, Due.BEYOND, "now(5)", () -> x.now(5));
         due.refuses(x, Due.BEYOND, "now(-1)", () -> x.now(-1));
         due.refuses(x, Due.BEYOND, "now(MOST)", () -> x.now(MOST));
@@ -323,6 +333,7 @@ public final class DaysTest {
         due.refuses(x, Due.BEYOND, "paint(-1, 0)", () -> x.paint(-1, 0));
         due.refuses(x, Due.BEYOND, "paint(0, 61)", () -> x.paint(0, 61));
         due.refuses(x, Due.BEYOND, "paint(0, -1)", () -> x.paint(0, -1));
+        paintWhatOthersHangOn(due);
         EnvyRust y = new EnvyRust();
         due.leaves(y, "without things", () -> y.paint(3, 5), 0);
         for (int i = 0; i < 8; i++) {
@@ -332,6 +343,21 @@ public final class DaysTest {
         y.person(5, 2);
         y.change(0, 2, 5);
         due.leaves(y, "comes to 2 and 7", () -> y.paint(2, 2), 4 + 128);
+    }
+
+    private static void paintWhatOthersHangOn(Due due) {
+        EnvyRust x = Due.town("looker walks 0 likes 2 5 0 0; thing 0 thick 20; thing 1 thick 999; thing 2 thick 500 on 0; thing 0 thick 1");
+        due.leaves(x, "it would fall", () -> x.paint(1, 10), 1);
+        due.leaves(x, "it wouldn't fall yet", () -> x.paint(1, 9), 2);
+        due.leaves(x, "both that are worn most", () -> x.paint(2, 9), 3);
+        x.forge(0, 2, 2);
+        due.leaves(x, "on a single day", () -> x.paint(1, 1), 1);
+        due.leaves(x, "on no day", () -> x.paint(1, 0), 1);
+        x.forge(0, 2, 0);
+        due.leaves(x, "what is gone can't be kept by paint", () -> x.paint(1, 1), 2);
+        due.leaves(x, "what is gone, on no day", () -> x.paint(2, 0), 3);
+        x.forge(2, 5, 3);
+        due.leaves(x, "it would fall with another", () -> x.paint(1, 3), 8);
     }
 
     private static void needs(Due due) {

@@ -83,6 +83,11 @@ public final class DealsTest {
         due.leaves(y, "fells()", y::fells, 1 | 8 | 16);
         y.forge(0, 5, 5);
         due.leaves(y, "fells()", y::fells, 8 | 16);
+        y.thing(0, 0);
+        y.thing(0, 0);
+        due.leaves(y, "fells() of 8", y::fells, 8 | 16 | 64 | 128);
+        y.forge(3, 2, 0);
+        due.leaves(y, "what is gone must be among them, too", y::fells, 8 | 16 | 64 | 128);
     }
 
     private static void worth(Due due) {

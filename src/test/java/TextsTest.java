@@ -119,7 +119,7 @@ public final class TextsTest {
             fault(due, text, text.length());
         }
         // Where the sign # is, is the fault (with the next sign): the sign itself is left out.
-        String[] marked = {"#;", "#looke", "#lookers", "#Looker", "#0", "#at 3", "looker;#;", "looker;#at", "looker #looker",
+        String[] marked = {"#;", "#looke", "#lookers", "#booker", "#lookerz", "#zlooker", "looker #bt 3", "#thinga", "#Looker", "#0", "#at 3", "looker;#;", "looker;#at", "looker #looker",
             "looker #thing 0", "looker #5", "looker #?", "looker#.", "#?looker", "looker#\t", "looker#\n", "looker#\u00e9", "looker#\u0000",
             "looker at #16", "looker at #;", "looker at #x", "looker at #walks 3", "looker at 3 #at 4", "looker at 3 #4", "looker walks #16",
             "looker walks 3 #at 4", "looker likes #10 1 1 1", "looker likes 1 1 1 #10", "looker likes 1 1 1 #;", "looker likes 1 1 1 1 #1",
@@ -158,7 +158,7 @@ public final class TextsTest {
     private static void nothingOfAFault(Due due) {
         EnvyRust x = Due.town("looker; thing 0; thing 1");
         String before = Due.seen(x);
-        String text = "thing 2 of 0 on 1; rival at 3; thing 3 at 5 thick 5; child walks 16";
+        String text = "thing 2 paint 4 of 0 on 1; rival at 3; thing 3 at 5 thick 5; child walks 16";
         due.is("a fault at the end", Due.read(x, text), -1 - text.indexOf("16"));
         due.is("nothing changed", before.equals(Due.seen(x)) ? 1 : 0, 1);
         due.is("no finding", x.status(-1), 0);

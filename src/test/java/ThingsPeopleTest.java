@@ -132,6 +132,9 @@ public final class ThingsPeopleTest {
         due.is("on one that hangs on it no more", x.forge(3, 5, 7), 2);
         due.refuses(x, Due.STATE, "round about now", () -> x.forge(0, 5, 3));
         due.is("thingOf(3, 5)", x.thingOf(3, 5), 7);
+        EnvyRust y = Due.town("thing 0; thing 0; thing 0");
+        due.is("forge(0, 5, 2)", y.forge(0, 5, 2), -1);
+        due.refuses(y, Due.STATE, "each on the other", () -> y.forge(2, 5, 0));
         due.is("what is gone stays hung", x.forge(0, 2, 0), 100);
         due.is("and fells nothing by itself", x.now(1), 1);
     }
