@@ -994,6 +994,7 @@ public final class EnvyRust {
             return set;
         }
 
+        /** What a day would take off now: all envy there, but no more than is left to wear. */
         private int wearOf(int thing) {
             int sum = 0;
             int place = iron[AT][thing];
@@ -1002,14 +1003,14 @@ public final class EnvyRust {
                     sum += envyOf(person, thing);
                 }
             }
-            return sum;
+            return Math.min(sum, iron[THICK][thing]);
         }
 
         private void passDays(int n) {
             for (int i = 0; i < n; i++) {
                 // No thing's wear asks how thick another one is, so that each is worn at once.
                 for (int thing = 0; thing < things; thing++) {
-                    iron[THICK][thing] = Math.max(0, iron[THICK][thing] - wearOf(thing));
+                    iron[THICK][thing] -= wearOf(thing);
                 }
                 fallAll();
                 walkAll();

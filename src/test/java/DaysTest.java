@@ -101,7 +101,7 @@ public final class DaysTest {
         due.leaves(x, "now(0)", () -> x.now(0), 0);
         due.leaves(x, "now(1)", () -> x.now(1), 16);
         due.leaves(x, "now(2)", () -> x.now(2), 303);
-        due.leaves(x, "now(3)", () -> x.now(3), 5 + 4 + 4);
+        due.leaves(x, "no more than there is of it", () -> x.now(3), 3 + 4 + 4);
         due.leaves(x, "now(4)", () -> x.now(4), 1 + 2 + 4 + 16);
         x.go(3);
         due.is("now(0)", x.now(0), 3);
@@ -116,6 +116,21 @@ public final class DaysTest {
         due.refuses(x, Due.BEYOND, "now(5)", () -> x.now(5));
         due.refuses(x, Due.BEYOND, "now(-1)", () -> x.now(-1));
         due.refuses(x, Due.BEYOND, "now(MOST)", () -> x.now(MOST));
+        nowWorn(due);
+    }
+
+    private static void nowWorn(Due due) {
+        EnvyRust x = Due.town("looker walks 0 likes 9 4 0 0; looker walks 0 likes 3 4 0 0",
+            "thing 0 thick 30; thing 1 thick 11; thing 1 at 3 thick 50 on 0");
+        int[] worn = {12 + 8, 12 + 3, 6};
+        for (int day = 0; day < worn.length; day++) {
+            int before = x.now(2);
+            due.leaves(x, "now(3) on day " + day, () -> x.now(3), worn[day]);
+            x.go(1);
+            int fell = day == 2 ? 50 : 0;
+            due.is("a day wears so much", before - x.now(2), worn[day] + fell);
+        }
+        due.leaves(x, "nothing is left to wear", () -> x.now(3), 0);
     }
 
     /** One that stays and wears thing 0 by 3 a day; thing 1 hangs on it; thing 2 nobody wears. */

@@ -119,12 +119,16 @@ final class Model {
             return envyAs(person, thing, things.get(thing).owner);
         }
 
-        int wear(int thing) {
+        int thickWorn(int thing) {
             int all = 0;
             for (int p = 0; p < people.size(); p++) {
                 if (people.get(p).at == things.get(thing).at) all += envyFor(p, thing);
             }
-            return all;
+            return Math.max(0, things.get(thing).thick - all);
+        }
+
+        int wear(int thing) {
+            return things.get(thing).thick - thickWorn(thing);
         }
 
         World behind(int days) {
@@ -136,7 +140,7 @@ final class Model {
         World next() {
             World w = copy();
             for (int t = 0; t < things.size(); t++) {
-                w.things.get(t).thick = Math.max(0, things.get(t).thick - wear(t));
+                w.things.get(t).thick = thickWorn(t);
             }
             for (int again = 0; again < 20; again++) {
                 for (Thing t : w.things) {

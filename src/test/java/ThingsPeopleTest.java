@@ -73,15 +73,31 @@ public final class ThingsPeopleTest {
         due.is("what nobody is at isn't worn", x.thingOf(1, 6), 0);
         due.is("an owner wears nothing of its own", x.thingOf(2, 6), 2);
         due.leaves(x, "thingOf(0, 6)", () -> x.thingOf(0, 6), 9);
-        x.forge(0, 2, 4);
-        due.is("all envy counts, also of what is thin", x.thingOf(0, 6), 9);
-        x.forge(0, 2, 0);
-        due.is("what is gone isn't worn", x.thingOf(0, 6), 0);
+        wornNow(due, x);
         due.refuses(x, Due.BEYOND, "thingOf(3, 0)", () -> x.thingOf(3, 0));
         due.refuses(x, Due.BEYOND, "thingOf(-1, 0)", () -> x.thingOf(-1, 0));
         due.refuses(x, Due.BEYOND, "thingOf(0, 7)", () -> x.thingOf(0, 7));
         due.refuses(x, Due.BEYOND, "thingOf(0, -1)", () -> x.thingOf(0, -1));
         due.refuses(x, Due.BEYOND, "thingOf(LEAST, MOST)", () -> x.thingOf(LEAST, MOST));
+    }
+
+    /** Thing 0 is envied by 9 where it is, and thing 1 hangs on it. */
+    private static void wornNow(Due due, EnvyRust x) {
+        int[] thick = {999, 10, 9, 8, 4, 1, 0};
+        int[] worn = {9, 9, 9, 8, 4, 1, 0};
+        for (int i = 0; i < thick.length; i++) {
+            x.forge(0, 2, thick[i]);
+            due.leaves(x, "thingOf(0, 6), " + thick[i] + " thick", () -> x.thingOf(0, 6), worn[i]);
+        }
+        due.is("what falls isn't worn", x.thingOf(1, 6), 0);
+        EnvyRust y = Due.town("thief at 5 likes 9 0 0 0; modest at 5 likes 9 0 0 0; child at 5 likes 0 9 0 0",
+            "thing 0 at 5 thick 3; thing 1 at 5 thick 17; thing 1 at 5 thick 18; thing 1 at 5 thick 19");
+        int[] left = {3, 17, 18, 18};
+        for (int i = 0; i < left.length; i++) {
+            due.is("thingOf(" + i + ", 6) by several", y.thingOf(i, 6), left[i]);
+        }
+        due.is("as a day wears them", y.go(1), 3);
+        due.is("as a day wears them", y.now(2), 1);
     }
 
     private static void forge(Due due) {
