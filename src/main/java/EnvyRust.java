@@ -1324,15 +1324,15 @@ public final class EnvyRust {
             end = start;
             if (start >= size) {
                 token = END;
-            } else if (isLetter(end)) {
+            } else if (isLetter(tape[end])) {
                 token = WORD;
-                while (isLetter(end)) {
+                while (end < size && isLetter(tape[end])) {
                     end++;
                 }
-            } else if (isDigit(end)) {
+            } else if (isDigit(tape[end])) {
                 token = NUMBER;
                 value = 0;
-                while (isDigit(end)) {
+                while (end < size && isDigit(tape[end])) {
                     // Above all that a number may be it grows no more, however many digits follow.
                     value = Math.min(MOST_THICK + 1, value * 10 + tape[end] - '0');
                     end++;
@@ -1343,12 +1343,12 @@ public final class EnvyRust {
             }
         }
 
-        private boolean isLetter(int i) {
-            return i < size && tape[i] >= 'a' && tape[i] <= 'z';
+        private static boolean isLetter(byte b) {
+            return b >= 'a' && b <= 'z';
         }
 
-        private boolean isDigit(int i) {
-            return i < size && tape[i] >= '0' && tape[i] <= '9';
+        private static boolean isDigit(byte b) {
+            return b >= '0' && b <= '9';
         }
     }
 }

@@ -1,3 +1,4 @@
+import java.util.function.IntToLongFunction;
 import java.util.function.LongSupplier;
 
 /** Compares answers with those that are due, promise by promise, and counts what is wrong. */
@@ -13,10 +14,25 @@ final class Due {
     private String title = "";
     private int answers = 0;
     private int wrong = 0;
+    private int answersAhead = -1;
 
     /** What follows is about this promise. */
     void promise(int number, String words) {
         title = "promise " + number + " (" + words + ")";
+    }
+
+    /** What follows, up to the next one, is the test of this sentence of a promise (of 0: Terms). */
+    void says(int number, String sentence) {
+        testedLast();
+        title = (number == 0 ? "Terms" : "promise " + number) + ", \"" + sentence + "\"";
+        answersAhead = answers;
+    }
+
+    private void testedLast() {
+        if (answers == answersAhead) {
+            wrong++;
+            System.out.println(title + ": nothing tests it");
+        }
     }
 
     void is(String call, long got, long want) {
@@ -48,7 +64,21 @@ final class Due {
         same(call, before, seen(x));
     }
 
-    private void same(String call, String before, String after) {
+    /** A question whose argument may go from least to most, with these answers; one further is BEYOND. */
+    void goes(EnvyRust x, String call, int least, long atLeast, int most, long atMost, IntToLongFunction ask) {
+        leaves(x, call + " of " + least, () -> ask.applyAsLong(least), atLeast);
+        leaves(x, call + " of " + most, () -> ask.applyAsLong(most), atMost);
+        outside(x, call, least, most, ask);
+    }
+
+    /** What is just below least, just above most, or far off, is BEYOND. */
+    void outside(EnvyRust x, String call, int least, int most, IntToLongFunction act) {
+        for (int v : new int[] {least - 1, most + 1, Integer.MIN_VALUE, Integer.MAX_VALUE}) {
+            refuses(x, BEYOND, call + " of " + v, () -> act.applyAsLong(v));
+        }
+    }
+
+    void same(String call, String before, String after) {
         answers++;
         if (!before.equals(after)) {
             wrong++;
@@ -117,6 +147,7 @@ final class Due {
 
     /** Tells how it went, and ends. */
     void end() {
+        testedLast();
         System.out.println(answers + " answers, " + wrong + " not as due");
         if (wrong != 0 || answers == 0) {
             System.exit(1);
