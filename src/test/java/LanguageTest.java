@@ -7,7 +7,9 @@ import java.nio.file.Path;
 import java.util.ArrayList;
 import java.util.Arrays;
 import java.util.List;
+import java.util.Map;
 import java.util.Set;
+import java.util.TreeMap;
 import java.util.TreeSet;
 import java.util.regex.Matcher;
 import java.util.regex.Pattern;
@@ -20,6 +22,7 @@ public final class LanguageTest {
         "Object", "Thread", "hashCode", "toString", "volatile", "native", "goto", "double", "float", "var"};
     private static final Set<Class<?>> CONSTANT = Set.of(int.class, long.class, boolean.class, char.class, String.class,
         int[].class, long[].class, char[].class, byte[].class);
+    private static final int DEEPEST = 8;
     private static int wrong = 0;
 
     public static void main(String[] args) throws Exception {
@@ -102,6 +105,36 @@ public final class LanguageTest {
             must(!code.contains(sign), "the sign " + sign);
         }
         lengths(Files.readString(SOURCE).split("\n"));
+        depths(code);
+    }
+
+    /** How deep calls go, a name that two classes have taken as one; none comes back to itself. */
+    private static void depths(String code) {
+        Map<String, Set<String>> called = new TreeMap<>();
+        Matcher method = Pattern.compile("(?ms)^( +)(?:public|private)[^;={}]* (\\w+)\\([^)]*\\) \\{$(.*?)^\\1\\}$").matcher(code);
+        while (method.find()) {
+            Set<String> names = called.computeIfAbsent(method.group(2), name -> new TreeSet<>());
+            Matcher call = Pattern.compile("(\\w+)\\(").matcher(method.group(3));
+            while (call.find()) {
+                names.add(call.group(1));
+            }
+        }
+        must(called.size() > 100, "only " + called.size() + " methods found");
+        for (String name : called.keySet()) {
+            int deep = depth(name, called, 0);
+            must(deep <= DEEPEST, "calls from " + name + " on go " + deep + " deep, or come back");
+        }
+    }
+
+    private static int depth(String name, Map<String, Set<String>> called, int open) {
+        if (!called.containsKey(name) || open > DEEPEST) {
+            return 0;
+        }
+        int deepest = 0;
+        for (String next : called.get(name)) {
+            deepest = Math.max(deepest, depth(next, called, open + 1));
+        }
+        return 1 + deepest;
     }
 
     private static void lengths(String[] lines) {
